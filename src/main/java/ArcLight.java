@@ -779,7 +779,8 @@ public final class ArcLight {
             }
             for (int head = ROOT; head <= arcs.size(); head++) {
                 long arc = arcs.get(head, word);
-                if (arc != NO_KEY && trial.canGive(head, word, crossing)) {
+                if (arc != NO_KEY && !trial.closesCircle(head, word)
+                        && (crossing || !trial.crossesEarlier(head, word))) {
                     trial.heads[word] = head;
                     giveHeads(trial, arcs, crossing, word + 1, key + arc);
                 }
@@ -793,29 +794,21 @@ public final class ArcLight {
             }
         }
 
-        private boolean canGive(int head, int word, boolean crossing) {
-            return !closesCircle(head, word) && (crossing || !crossesEarlier(head, word));
-        }
-
         private boolean closesCircle(int head, int word) {
             int place = head;
             for (int step = 0; step < PLACES && place > ROOT && place < word; step++) {
-                place = headOf(place);
+                place = place < heads.length ? heads[place] : ROOT;
             }
             return place == word;
         }
 
         private boolean crossesEarlier(int head, int word) {
-            for (int other = 1; other < word; other++) {
-                if (doCross(head, word, headOf(other), other)) {
+            for (int other = 1; other < word && other < heads.length; other++) {
+                if (doCross(head, word, heads[other], other)) {
                     return true;
                 }
             }
             return false;
-        }
-
-        private int headOf(int word) {
-            return isPlace(word) ? heads[word] : ROOT;
         }
     }
 }
