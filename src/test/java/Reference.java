@@ -277,7 +277,7 @@ final class Reference {
         return true;
     }
 
-    private static int pairs(int[] heads) {
+    static int pairs(int[] heads) {
         int count = 0;
         for (int word = 1; word < heads.length; word++) {
             for (int other = word + 1; other < heads.length; other++) {
