@@ -58,6 +58,14 @@ final class Made {
         return light;
     }
 
+    /** Checks the scores of the best trees of sentence 0, of all allowed ones and of those without crossings. */
+    static void dueBest(String what, ArcLight light, int crossing, int plain) {
+        Check.due(what + ", best", light.best(0, true), crossing);
+        Check.due(what + ", by trying", light.bestByTrying(0, true), crossing);
+        Check.due(what + ", best without crossings", light.best(0, false), plain);
+        Check.due(what + ", by trying without crossings", light.bestByTrying(0, false), plain);
+    }
+
     /** The heads of the best tree, as "[head of 1, head of 2, ..]". */
     static String bestHeads(ArcLight light, int sentence, boolean crossing) {
         int[] heads = new int[light.words(sentence)];

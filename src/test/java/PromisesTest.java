@@ -34,22 +34,6 @@ public final class PromisesTest {
         Check.end("PromisesTest");
     }
 
-    /** An object with one sentence, of words of these kinds. */
-    private static ArcLight with(int... kinds) {
-        ArcLight light = new ArcLight();
-        light.addSentence();
-        for (int kind : kinds) {
-            light.addWord(0, kind);
-        }
-        return light;
-    }
-
-    private static void correctAll(ArcLight light, int... heads) {
-        for (int word = 1; word <= heads.length; word++) {
-            light.correct(0, heads[word - 1], word);
-        }
-    }
-
     private static void dueHeads(String what, ArcLight light, boolean crossing, int... heads) {
         for (int word = 1; word <= heads.length; word++) {
             Check.due(what + ": head of " + word, light.head(0, crossing, word), heads[word - 1]);
@@ -83,7 +67,7 @@ public final class PromisesTest {
     }
 
     private static void promise3() {
-        ArcLight light = with();
+        ArcLight light = Made.with();
         light.addSentence();
         Check.fails("3: kind -1", ARGUMENT, () -> light.addWord(0, -1));
         Check.fails("3: kind 4", ARGUMENT, () -> light.addWord(0, 4));
@@ -100,7 +84,7 @@ public final class PromisesTest {
     }
 
     private static void promise3Keeps() {
-        ArcLight light = with(0, 1);
+        ArcLight light = Made.with(0, 1);
         light.mark(0, 2, 1, ArcLight.FORCED);
         light.correct(0, 2, 1);
         light.addWord(0, 2);
@@ -114,7 +98,7 @@ public final class PromisesTest {
     }
 
     private static void promises4To6() {
-        ArcLight light = with(3, 0, 2);
+        ArcLight light = Made.with(3, 0, 2);
         Check.due("4: sentences", light.sentences(), 1);
         Check.due("5: words", light.words(0), 3);
         Check.due("6: kind of 1", light.kind(0, 1), 3);
@@ -157,7 +141,7 @@ public final class PromisesTest {
     }
 
     private static void promise9() {
-        ArcLight light = with(1, 3, 0, 2, 3, 1);
+        ArcLight light = Made.with(1, 3, 0, 2, 3, 1);
         Check.due("9: kinds from the root", light.feature(0, 0, 2, false), 19);
         Check.due("9: kinds 1 and 3", light.feature(0, 1, 2, false), 7);
         Check.due("9: kinds 3 and 1", light.feature(0, 2, 1, false), 13);
@@ -200,7 +184,7 @@ public final class PromisesTest {
     }
 
     private static void promise10() {
-        ArcLight light = with(1, 3, 0, 2, 3, 1);
+        ArcLight light = Made.with(1, 3, 0, 2, 3, 1);
         light.setWeight(7, 30);
         light.setWeight(20, -4);
         light.setWeight(13, 11);
@@ -212,7 +196,7 @@ public final class PromisesTest {
     }
 
     private static void promise11() {
-        ArcLight light = with(1, 3, 0, 2, 3, 1);
+        ArcLight light = Made.with(1, 3, 0, 2, 3, 1);
         Check.due("11: first", light.mark(0, 2, 1, ArcLight.FORCED), ArcLight.FREE);
         Check.due("11: forced again", light.mark(0, 2, 1, ArcLight.FORCED), ArcLight.FORCED);
         Check.fails("11: another forced", STATE, () -> light.mark(0, 0, 1, ArcLight.FORCED));
@@ -234,7 +218,7 @@ public final class PromisesTest {
     private static void promise12() {
         int[] all = {1, 1, 3, 16, 125, 1296, 16807};
         int[] plain = {1, 1, 3, 12, 55, 273, 1428};
-        ArcLight light = with();
+        ArcLight light = Made.with();
         for (int words = 0; words <= 6; words++) {
             Check.due("12: trees of " + words, light.trees(0, true), all[words]);
             Check.due("12: without crossings of " + words, light.trees(0, false), plain[words]);
@@ -248,7 +232,7 @@ public final class PromisesTest {
         Check.due("12: forced", light.trees(0, true), 7 * 7 * 7);
         Check.fails("12: sentence 1", OUT, () -> light.trees(1, true));
         Check.fails("12: sentence -1", OUT, () -> light.trees(-1, false));
-        ArcLight small = with(0, 0);
+        ArcLight small = Made.with(0, 0);
         small.mark(0, 1, 2, ArcLight.FORBIDDEN);
         Check.due("12: one forbidden", small.trees(0, true), 2);
         small.mark(0, 2, 1, ArcLight.FORBIDDEN);
@@ -258,21 +242,21 @@ public final class PromisesTest {
     }
 
     private static void promises13And14() {
-        ArcLight light = with(0, 1, 2, 3);
+        ArcLight light = Made.with(0, 1, 2, 3);
         for (int feature : new int[] {2, 7}) {
             light.setWeight(feature, 9);
         }
-        dueBest("13: crossing arcs of 9", light, 18, 9);
+        Made.dueBest("13: crossing arcs of 9", light, 18, 9);
         light.setWeight(16, -5);
-        dueBest("13: below nothing", light, 18, 9);
+        Made.dueBest("13: below nothing", light, 18, 9);
         light.mark(0, 2, 4, ArcLight.FORBIDDEN);
-        dueBest("13: one forbidden", light, 9, 9);
+        Made.dueBest("13: one forbidden", light, 9, 9);
         for (int feature = 0; feature < 28; feature++) {
             light.setWeight(feature, -100);
         }
-        dueBest("13: all below 0", light, -800, -800);
-        dueBest("13: without words", with(), 0, 0);
-        ArcLight circles = with(0, 0, 1, 1, 2, 2);
+        Made.dueBest("13: all below 0", light, -800, -800);
+        Made.dueBest("13: without words", Made.with(), 0, 0);
+        ArcLight circles = Made.with(0, 0, 1, 1, 2, 2);
         circles.setWeight(0, 50);
         circles.setWeight(5, 40);
         circles.setWeight(10, 30);
@@ -281,10 +265,10 @@ public final class PromisesTest {
         circles.setWeight(17, -3);
         circles.setWeight(16, -9);
         circles.setWeight(18, 2);
-        dueBest("13: circles", circles, 2 + 30 + 6 + 40 + 7 + 50, 2 + 30 + 6 + 40 + 7 + 50);
-        ArcLight none = with(0);
+        Made.dueBest("13: circles", circles, 2 + 30 + 6 + 40 + 7 + 50, 2 + 30 + 6 + 40 + 7 + 50);
+        ArcLight none = Made.with(0);
         none.mark(0, 0, 1, ArcLight.FORBIDDEN);
-        ArcLight crossed = with(0, 0, 0, 0);
+        ArcLight crossed = Made.with(0, 0, 0, 0);
         crossed.mark(0, 3, 1, ArcLight.FORCED);
         crossed.mark(0, 4, 2, ArcLight.FORCED);
         for (boolean crossing : new boolean[] {true, false}) {
@@ -301,15 +285,8 @@ public final class PromisesTest {
         Check.fails("14: crossing forced", STATE, () -> crossed.bestByTrying(0, false));
     }
 
-    private static void dueBest(String what, ArcLight light, int crossing, int plain) {
-        Check.due(what + ", best", light.best(0, true), crossing);
-        Check.due(what + ", by trying", light.bestByTrying(0, true), crossing);
-        Check.due(what + ", best without crossings", light.best(0, false), plain);
-        Check.due(what + ", by trying without crossings", light.bestByTrying(0, false), plain);
-    }
-
     private static void promise15() {
-        ArcLight light = with(0, 0, 0, 0, 0, 0);
+        ArcLight light = Made.with(0, 0, 0, 0, 0, 0);
         dueHeads("15: all alike", light, true, 0, 0, 0, 0, 0, 0);
         dueHeads("15: all alike without crossings", light, false, 0, 0, 0, 0, 0, 0);
         light.setWeight(16, -1);
@@ -321,16 +298,16 @@ public final class PromisesTest {
         Check.fails("15: word 0", OUT, () -> light.head(0, true, 0));
         Check.fails("15: word 7", OUT, () -> light.head(0, false, 7));
         Check.fails("15: sentence 1", OUT, () -> light.head(1, true, 1));
-        ArcLight none = with(0);
+        ArcLight none = Made.with(0);
         none.mark(0, 0, 1, ArcLight.FORBIDDEN);
         Check.fails("15: no tree", STATE, () -> none.head(0, true, 1));
         Check.fails("15: no tree without crossings", STATE, () -> none.head(0, false, 1));
         Check.fails("15: word ahead of tree", OUT, () -> none.head(0, true, 2));
-        Check.fails("15: no words", OUT, () -> with().head(0, true, 1));
+        Check.fails("15: no words", OUT, () -> Made.with().head(0, true, 1));
     }
 
     private static void promise16() {
-        ArcLight light = with(0, 0, 0, 0, 0, 0);
+        ArcLight light = Made.with(0, 0, 0, 0, 0, 0);
         Check.due("16: none", light.crossings(0), 0);
         light.mark(0, 3, 1, ArcLight.FORCED);
         Check.due("16: over the word between", light.crossings(0), 1);
@@ -338,20 +315,20 @@ public final class PromisesTest {
         Check.due("16: two arcs", light.crossings(0), 2);
         light.mark(0, 3, 5, ArcLight.FORCED);
         Check.due("16: ends that are the same", light.crossings(0), 4);
-        ArcLight last = with(0, 0, 0);
+        ArcLight last = Made.with(0, 0, 0);
         last.mark(0, 1, 3, ArcLight.FORCED);
         Check.due("16: with the last word", last.crossings(0), 1);
         last.mark(0, 1, 2, ArcLight.FORCED);
         Check.due("16: both from one head", last.crossings(0), 0);
-        Check.due("16: of no words", with().crossings(0), 0);
+        Check.due("16: of no words", Made.with().crossings(0), 0);
         Check.fails("16: sentence 1", OUT, () -> light.crossings(1));
-        ArcLight none = with(0);
+        ArcLight none = Made.with(0);
         none.mark(0, 0, 1, ArcLight.FORBIDDEN);
         Check.fails("16: no tree", STATE, () -> none.crossings(0));
     }
 
     private static void promises17And18() {
-        ArcLight light = with(0, 1);
+        ArcLight light = Made.with(0, 1);
         light.setWeight(16, 2);
         light.setWeight(4, 2);
         int[][] due = {{2, 0, 0}, {2, 0, 1}, {2, 2, 0}};
@@ -382,13 +359,13 @@ public final class PromisesTest {
     }
 
     private static void rankedEdges() {
-        Check.due("17: of no words", with().ranked(0, true, 0), 0);
-        Check.fails("17: of no words, rank 1", OUT, () -> with().ranked(0, true, 1));
-        ArcLight none = with(0);
+        Check.due("17: of no words", Made.with().ranked(0, true, 0), 0);
+        Check.fails("17: of no words, rank 1", OUT, () -> Made.with().ranked(0, true, 1));
+        ArcLight none = Made.with(0);
         none.mark(0, 0, 1, ArcLight.FORBIDDEN);
         Check.fails("17: no tree", OUT, () -> none.ranked(0, true, 0));
         Check.fails("18: no tree", OUT, () -> none.rankedHead(0, true, 0, 1));
-        ArcLight long6 = with(0, 0, 0, 0, 0, 0);
+        ArcLight long6 = Made.with(0, 0, 0, 0, 0, 0);
         Check.due("17: rank 16806", long6.ranked(0, true, 16806), 0);
         Check.fails("17: rank 16807", OUT, () -> long6.ranked(0, true, 16807));
         Check.fails("17: rank 1428", OUT, () -> long6.ranked(0, false, 1428));
@@ -401,7 +378,7 @@ public final class PromisesTest {
 
     /** Alike arcs: the rank is then the place among all trees by their heads alone. */
     private static void rankedAlike() {
-        ArcLight light = with(0, 0, 0, 0, 0, 0);
+        ArcLight light = Made.with(0, 0, 0, 0, 0, 0);
         int[] ranks = {0, 1, 2, 3, 4, 5, 6, 10, 11};
         int[] fifth = {0, 0, 0, 0, 0, 0, 1, 1, 1};
         int[] sixth = {0, 1, 2, 3, 4, 5, 0, 4, 5};
@@ -412,7 +389,7 @@ public final class PromisesTest {
     }
 
     private static void promise19() {
-        ArcLight light = with(1, 3, 0, 2, 3, 1);
+        ArcLight light = Made.with(1, 3, 0, 2, 3, 1);
         Check.due("19: first", light.correct(0, 0, 1), ArcLight.NONE);
         Check.due("19: then", light.correct(0, 6, 1), 0);
         Check.due("19: again", light.correct(0, 6, 1), 6);
@@ -422,7 +399,7 @@ public final class PromisesTest {
     }
 
     private static void promise20() {
-        ArcLight light = with(0, 1, 2);
+        ArcLight light = Made.with(0, 1, 2);
         Check.due("20: none told", light.matched(0), 0);
         light.correct(0, 0, 1);
         light.correct(0, 1, 2);
@@ -440,7 +417,7 @@ public final class PromisesTest {
         light.correct(0, 0, 2);
         Check.due("20: with crossings", light.matched(0), 3);
         light.mark(0, 1, 3, ArcLight.FREE);
-        Check.due("20: of no words", with().matched(0), 0);
+        Check.due("20: of no words", Made.with().matched(0), 0);
         Check.fails("20: sentence 1", OUT, () -> light.matched(1));
         for (int head = 0; head < 3; head++) {
             light.mark(0, head, 3, ArcLight.FORBIDDEN);
@@ -449,8 +426,8 @@ public final class PromisesTest {
     }
 
     private static void promise21() {
-        ArcLight light = with(0, 1, 2);
-        correctAll(light, 2, 3, 0);
+        ArcLight light = Made.with(0, 1, 2);
+        Made.correct(light, 0, 2, 3, 0);
         Check.due("21: all but the last", light.mend(0), 2);
         int[] changed = {4, 9, 16, 17, 20, 21, 22};
         int[] weights = {1, 1, -1, -1, -1, 2, -1};
@@ -461,12 +438,12 @@ public final class PromisesTest {
         Check.due("21: nothing differs", light.mend(0), 0);
         Check.due("21: weight 21 still", light.weight(21), 2);
         Check.due("21: steps", light.steps(), 2);
-        ArcLight grown = with(0, 1);
+        ArcLight grown = Made.with(0, 1);
         grown.setWeight(4, 100);
         grown.setWeight(16, -100);
         grown.mark(0, 0, 1, ArcLight.FORCED);
         grown.mark(0, 0, 2, ArcLight.FORCED);
-        correctAll(grown, 2, 0);
+        Made.correct(grown, 0, 2, 0);
         Check.due("21: beyond what can be set", grown.mend(0), 1);
         Check.due("21: weight 101", grown.weight(4), 101);
         Check.due("21: weight -101", grown.weight(16), -101);
@@ -474,8 +451,8 @@ public final class PromisesTest {
     }
 
     private static void promise21WithCrossings() {
-        ArcLight light = with(0, 1, 2);
-        correctAll(light, 0, 0, 1);
+        ArcLight light = Made.with(0, 1, 2);
+        Made.correct(light, 0, 0, 0, 1);
         light.mark(0, 1, 3, ArcLight.FORCED);
         Check.due("21: the best tree has crossings", light.mend(0), 0);
         light.mark(0, 1, 3, ArcLight.FREE);
@@ -488,7 +465,7 @@ public final class PromisesTest {
     }
 
     private static void promise21Refuses() {
-        ArcLight light = with(0, 0);
+        ArcLight light = Made.with(0, 0);
         Check.fails("21: sentence 1", OUT, () -> light.mend(1));
         Check.fails("21: none told", STATE, () -> light.mend(0));
         light.correct(0, 2, 1);
@@ -508,7 +485,7 @@ public final class PromisesTest {
     }
 
     private static void promise22() {
-        ArcLight light = with();
+        ArcLight light = Made.with();
         for (int step = 1; step <= 25; step++) {
             light.mend(0);
             Check.due("22: steps", light.steps(), step);
@@ -522,7 +499,7 @@ public final class PromisesTest {
     }
 
     private static void promise23() {
-        ArcLight light = with();
+        ArcLight light = Made.with();
         light.setWeight(3, 10);
         Check.due("23: without steps", light.average(3), 0.0);
         light.mend(0);
@@ -549,8 +526,8 @@ public final class PromisesTest {
         for (int number : NO_NUMBERS) {
             Check.fails("23: feature " + number, OUT, () -> light.average(number));
         }
-        ArcLight mended = with(0);
-        correctAll(mended, 0);
+        ArcLight mended = Made.with(0);
+        Made.correct(mended, 0, 0);
         mended.setWeight(16, 1);
         mended.mend(0);
         mended.setWeight(16, 0);
@@ -560,8 +537,8 @@ public final class PromisesTest {
     }
 
     private static void promise24() {
-        ArcLight light = with(0, 1);
-        correctAll(light, 2, 0);
+        ArcLight light = Made.with(0, 1);
+        Made.correct(light, 0, 2, 0);
         light.setWeight(4, 5);
         light.setWeight(4, -9);
         light.mend(0);

@@ -113,32 +113,25 @@ public final class TreeEdgesTest {
         Check.due("its heads", Made.bestHeads(light, 0, true), "[0, 1, 2, 3, 4, 5]");
     }
 
-    private static void dueBest(String what, ArcLight light, int crossing, int plain) {
-        Check.due(what + ", best", light.best(0, true), crossing);
-        Check.due(what + ", by trying", light.bestByTrying(0, true), crossing);
-        Check.due(what + ", best without crossings", light.best(0, false), plain);
-        Check.due(what + ", by trying without crossings", light.bestByTrying(0, false), plain);
-    }
-
     private static void extremes() {
-        dueBest("no words", Made.with(), 0, 0);
-        dueBest("weights 0", Made.alike(6), 0, 0);
+        Made.dueBest("no words", Made.with(), 0, 0);
+        Made.dueBest("weights 0", Made.alike(6), 0, 0);
         ArcLight one = Made.with(3);
         one.setWeight(19, 100);
         one.setWeight(20, 100);
-        dueBest("one word, the greatest", one, 200, 200);
+        Made.dueBest("one word, the greatest", one, 200, 200);
         one.setWeight(19, -100);
         one.setWeight(20, -100);
-        dueBest("one word, the least", one, -200, -200);
+        Made.dueBest("one word, the least", one, -200, -200);
         ArcLight six = Made.alike(6);
         for (int feature = 0; feature < 28; feature++) {
             six.setWeight(feature, 100);
         }
-        dueBest("six words, the greatest", six, 1200, 1200);
+        Made.dueBest("six words, the greatest", six, 1200, 1200);
         for (int feature = 0; feature < 28; feature++) {
             six.setWeight(feature, -100);
         }
-        dueBest("six words, the least", six, -1200, -1200);
+        Made.dueBest("six words, the least", six, -1200, -1200);
     }
 
     /** The words 1 and 2 take each other's arcs; one of them must come from the root instead. */
@@ -146,13 +139,13 @@ public final class TreeEdgesTest {
         ArcLight light = Made.with(0, 1);
         light.setWeight(1, 50);
         light.setWeight(4, 60);
-        dueBest("a circle of two", light, 60, 60);
+        Made.dueBest("a circle of two", light, 60, 60);
         Check.due("heads", Made.bestHeads(light, 0, true), "[2, 0]");
         light.setWeight(16, 11);
-        dueBest("another arc into it", light, 61, 61);
+        Made.dueBest("another arc into it", light, 61, 61);
         Check.due("heads then", Made.bestHeads(light, 0, true), "[0, 1]");
         light.setWeight(16, 10);
-        dueBest("both alike", light, 60, 60);
+        Made.dueBest("both alike", light, 60, 60);
         Check.due("the lower head", Made.bestHeads(light, 0, true), "[0, 1]");
     }
 
@@ -163,11 +156,11 @@ public final class TreeEdgesTest {
         light.setWeight(5, 40);
         light.setWeight(1, 10);
         light.setWeight(4, 8);
-        dueBest("circles of a circle", light, 100, 100);
+        Made.dueBest("circles of a circle", light, 100, 100);
         Check.due("heads", Made.bestHeads(light, 0, true), "[0, 1, 1, 3]");
         Check.due("heads without crossings", Made.bestHeads(light, 0, false), "[0, 1, 1, 3]");
         light.setWeight(4, 11);
-        dueBest("the other way round", light, 101, 101);
+        Made.dueBest("the other way round", light, 101, 101);
         Check.due("heads then", Made.bestHeads(light, 0, true), "[2, 3, 0, 3]");
     }
 
@@ -179,10 +172,10 @@ public final class TreeEdgesTest {
             light.setWeight(feature, 30);
         }
         Check.due("the best has no crossings", light.crossings(0), 0);
-        dueBest("a circle of all", light, 90, 90);
+        Made.dueBest("a circle of all", light, 90, 90);
         Check.due("the first from the root", Made.bestHeads(light, 0, true), "[0, 1, 2, 3]");
         light.setWeight(18, 5);
-        dueBest("the third from the root, across the arc 4 to 1", light, 95, 90);
+        Made.dueBest("the third from the root, across the arc 4 to 1", light, 95, 90);
         Check.due("heads then", Made.bestHeads(light, 0, true), "[4, 1, 0, 3]");
     }
 
@@ -191,9 +184,9 @@ public final class TreeEdgesTest {
         ArcLight light = Made.with(0, 1, 2, 3);
         light.setWeight(2, 9);
         light.setWeight(7, 9);
-        dueBest("two arcs that cross", light, 18, 9);
+        Made.dueBest("two arcs that cross", light, 18, 9);
         light.setWeight(23, 10);
-        dueBest("their words' arcs back", light, 20, 10);
+        Made.dueBest("their words' arcs back", light, 20, 10);
         light.mark(0, 1, 3, ArcLight.FORCED);
         light.mark(0, 2, 4, ArcLight.FORCED);
         Check.due("both forced", light.best(0, true), 18);
@@ -203,15 +196,15 @@ public final class TreeEdgesTest {
     private static void bestAfterChanges() {
         ArcLight light = Made.with(0, 1);
         light.setWeight(4, 5);
-        dueBest("set", light, 5, 5);
+        Made.dueBest("set", light, 5, 5);
         light.mark(0, 2, 1, ArcLight.FORBIDDEN);
-        dueBest("forbidden", light, 0, 0);
+        Made.dueBest("forbidden", light, 0, 0);
         light.mark(0, 2, 1, ArcLight.FREE);
-        dueBest("free", light, 5, 5);
+        Made.dueBest("free", light, 5, 5);
         light.addWord(0, 0);
-        dueBest("with another word", light, 10, 10);
+        Made.dueBest("with another word", light, 10, 10);
         light.rollBack();
-        dueBest("rolled back", light, 0, 0);
+        Made.dueBest("rolled back", light, 0, 0);
     }
 
     private static ArcLight noneAtAll() {
@@ -354,6 +347,11 @@ public final class TreeEdgesTest {
         }
         Check.outOfBounds("rank 1428 without crossings", () -> light.ranked(0, false, 1428));
         Check.due("rank 1428 of all", light.ranked(0, true, 1428) > 0, true);
+        light.setWeight(16, -1);
+        Check.due("the last of all, all from the root", light.ranked(0, true, 16806), -6);
+        Check.due("its heads", Made.rankedHeads(light, 0, true, 16806), STAR);
+        Check.due("the last but one", light.ranked(0, true, 16805), -5);
+        Check.due("the last without crossings, all from the root", light.ranked(0, false, 1427), -6);
     }
 
     private static void ranksOfNoTree() {
